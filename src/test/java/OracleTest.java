@@ -1,0 +1,404 @@
+import java.util.Random;
+
+/** Random runs of calls, the same each time, on the class and on the oracle. */
+public final class OracleTest {
+    private static final String[] WORDS = {"heat", "near", "guests", "x", "y", "minute", "way", "back", "edge"};
+    private static final Check CHECK = new Check();
+
+    private final Random random;
+    private final DeafSpot spot = new DeafSpot();
+    private final Oracle oracle = new Oracle();
+    private final String name;
+    private int columns = 1;
+    private int rows = 1;
+
+    private OracleTest(long seed) {
+        random = new Random(seed);
+        name = "run " + seed + ": ";
+    }
+
+    public static void main(String[] args) {
+        int runs = args.length > 0 ? Integer.parseInt(args[0]) : 700;
+        for (int seed = 1; seed <= runs; seed++) {
+            new OracleTest(seed).texts(12);
+        }
+        for (int seed = 1; seed <= runs; seed++) {
+            new OracleTest(seed).calls(seed % 25 == 0);
+        }
+        CHECK.finish();
+    }
+
+    private int below(int n) {
+        return random.nextInt(n);
+    }
+
+    private boolean one(int in) {
+        return random.nextInt(in) == 0;
+    }
+
+    private String hallText(int most) {
+        columns = 1 + below(most);
+        rows = 1 + below(Math.min(8, most));
+        StringBuilder text = new StringBuilder("hall " + columns + " " + rows);
+        StringBuilder taken = new StringBuilder();
+        int clauses = below(14) + (one(4) ? 14 : 0);
+        for (int i = 0; i < clauses && text.length() < 380; i++) {
+            int x = below(columns);
+            int y = below(rows);
+            String seat = " " + x + " " + y + " ";
+            switch (below(6)) {
+                case 0:
+                case 1:
+                    if (taken.indexOf("(" + x + "," + y + ")") < 0 || one(60)) {
+                        text.append(";guest").append(seat).append(below(100)).append(' ').append(below(10));
+                        taken.append("(" + x + "," + y + ")");
+                    }
+                    break;
+                case 2: text.append(";fan").append(seat).append(1 + below(4)).append(' ').append(1 + below(one(2) ? 9 : 99)); break;
+                case 3: text.append(";snow").append(seat).append(1 + below(one(2) ? 9 : 99)); break;
+                case 4: text.append(";warm").append(seat).append(below(one(2) ? 100 : 10000)); break;
+                default:
+                    if (text.indexOf("spot") < 0 || one(20)) {
+                        text.append(";spot").append(seat);
+                    }
+                    break;
+            }
+        }
+        return text.length() > 400 ? "hall 2 2" : text.toString();
+    }
+
+    private String value() {
+        return one(3) ? Integer.toString(below(one(4) ? 100000 : 12)) : WORDS[below(9)];
+    }
+
+    private String sum() {
+        StringBuilder text = new StringBuilder(value());
+        for (int i = below(5); i > 0; i--) {
+            text.append(one(3) ? " " : "").append("+-*/%".charAt(below(5))).append(one(3) ? " " : "").append(value());
+        }
+        return text.toString();
+    }
+
+    private String test(int depth) {
+        StringBuilder text = new StringBuilder(fact(depth));
+        for (int i = one(2) ? below(3) : 0; i > 0; i--) {
+            text.append(one(2) ? " and " : " or ").append(fact(depth));
+        }
+        return text.toString();
+    }
+
+    private String fact(int depth) {
+        if (depth > 0 && one(4)) {
+            return "not " + fact(depth - 1);
+        }
+        if (depth > 0 && one(4)) {
+            return "[" + test(depth - 1) + "]";
+        }
+        return sum() + new String[] {"<", "<=", "=", ">=", ">"}[below(5)] + sum();
+    }
+
+    private String lawText() {
+        StringBuilder text = new StringBuilder();
+        for (int i = below(4); i >= 0; i--) {
+            text.append("go ").append(sum());
+            if (i > 0 || one(2)) {
+                text.append(" if ").append(test(one(10) ? 12 : 3));
+            }
+            text.append(i > 0 ? ";" : "");
+        }
+        return text.length() > 400 ? "go heat" : text.toString();
+    }
+
+    private String spoiled(String text) {
+        StringBuilder other = new StringBuilder(text);
+        for (int i = below(3); i >= 0; i--) {
+            int at = below(other.length() + 1);
+            switch (below(5)) {
+                case 0: other.setLength(at); break;
+                case 1: other.insert(at, "; [<=>]+-*/%!0123456789azAZ".charAt(below(27))); break;
+                case 2: other.insert(at, new String[] {"go", "if", "not", "and ", "or ", "hall", "guest 0 0 1 1;", "spot 0 0;", "x", "12345", "[["}[below(11)]); break;
+                case 3:
+                    if (at < other.length()) {
+                        other.deleteCharAt(at);
+                    }
+                    break;
+                default:
+                    if (at < other.length()) {
+                        other.setCharAt(at, (char) (one(4) ? below(256) : 32 + below(95)));
+                    }
+                    break;
+            }
+        }
+        if (other.length() > 400) {
+            other.setLength(400);
+        }
+        return other.toString();
+    }
+
+    /** A law with as many values, clauses and levels as may be, or one more. */
+    private String brimful() {
+        StringBuilder text = new StringBuilder("go ");
+        switch (below(3)) {
+            case 0:
+                text.append("1");
+                for (int i = 57 + below(4); i > 0; i--) {
+                    text.append(one(9) ? "+ " : "+").append(one(3) ? "x" : "7");
+                }
+                text.append(" if ").append(one(2) ? "1=1" : "x");
+                break;
+            case 1:
+                text.append("1");
+                for (int i = 10 + below(3); i > 0; i--) {
+                    text.append(";").append(one(9) ? " " : "").append("go 1");
+                }
+                break;
+            default:
+                text.append("y if ");
+                int deep = 9 + below(3);
+                StringBuilder close = new StringBuilder();
+                for (int i = 0; i < deep; i++) {
+                    boolean not = one(2);
+                    text.append(not ? "not " : "[");
+                    close.append(not ? "" : "]");
+                }
+                text.append("x>=1").append(close).append(one(2) ? " and not [y=1]" : "");
+                break;
+        }
+        return text.toString();
+    }
+
+    private void put(String text) {
+        due("end(0)", spot.end(0), oracle.end(0));
+        for (int k = 0; 20 * k < text.length(); k++) {
+            int[] n = Check.numbers(text, k);
+            due("feed", spot.feed(n[0], n[1], n[2], n[3], n[4]), oracle.feed(n[0], n[1], n[2], n[3], n[4]));
+        }
+        due("end", spot.end(text.length()), oracle.end(text.length()));
+    }
+
+    private void hall(String text) {
+        put(text);
+        due("hall of " + text, spot.hall(), oracle.hall());
+    }
+
+    private void law(String text) {
+        put(text);
+        due("law of " + text, spot.law(), oracle.law());
+    }
+
+    private void due(String call, int got, int want) {
+        CHECK.due(name + call, got, want);
+    }
+
+    /** Texts alone, most of them spoiled. */
+    private void texts(int number) {
+        for (int i = 0; i < number; i++) {
+            String text = hallText(10);
+            hall(one(4) ? text : spoiled(text));
+            String rule = one(3) ? brimful() : lawText();
+            law(one(5) ? rule : spoiled(rule));
+        }
+        for (int what = -1; what <= 17; what++) {
+            due("count(" + what + ")", spot.count(what), oracle.count(what));
+        }
+    }
+
+    private void calls(boolean large) {
+        for (int what = -1; what <= 17 && one(8); what++) {
+            due("count(" + what + ")", spot.count(what), oracle.count(what));
+        }
+        if (!one(30)) {
+            hall(hallText(large ? 10 : 4));
+        }
+        for (int i = 1 + below(3); i > 0 && !one(30); i--) {
+            law(lawText());
+        }
+        for (int i = 0; i < (large ? 40 : 70); i++) {
+            call(large);
+        }
+    }
+
+    private int x() {
+        return below(columns + (one(6) ? 2 : 0)) - (one(20) ? 1 : 0);
+    }
+
+    private int y() {
+        return below(rows + (one(6) ? 2 : 0)) - (one(20) ? 1 : 0);
+    }
+
+    private int who() {
+        int guests = Math.max(1, oracle.count(2));
+        return one(12) ? below(14) - 1 : below(guests);
+    }
+
+    private int rule() {
+        int rules = Math.max(1, oracle.count(5));
+        return one(20) ? below(9) - 1 : below(rules);
+    }
+
+    private int minutes(int most) {
+        return one(12) ? most + below(3) - 1 : one(8) ? below(3) - 1 : below(most + 1);
+    }
+
+    private int what(int most) {
+        return one(15) ? below(most + 3) - 1 : below(most + 1);
+    }
+
+    private void call(boolean large) {
+        if (one(3)) {
+            hand();
+        } else if (one(2)) {
+            look();
+        } else {
+            search(large);
+        }
+    }
+
+    private void hand() {
+        int g = who();
+        int h = who();
+        int x = x();
+        int y = y();
+        int k = one(15) ? below(7) - 1 : below(4);
+        switch (below(11)) {
+            case 0:
+            case 1: CHECK.due(name + "sits(" + g + ", " + x + ", " + y + ")", spot.sits(g, x, y), oracle.sits(g, x, y)); break;
+            case 2: CHECK.due(name + "goes(" + g + ")", spot.goes(g), oracle.goes(g)); break;
+            case 3: CHECK.due(name + "change(" + g + ", " + h + ")", spot.change(g, h), oracle.change(g, h)); break;
+            case 4:
+                int n = one(9) ? 98 + below(5) : below(101) - 1;
+                due("warms(" + g + ", " + n + ")", spot.warms(g, n), oracle.warms(g, n));
+                break;
+            case 5:
+            case 6:
+                int law = rule();
+                int minutes = one(3) ? minutes(120) : 1 + below(4);
+                due("tick(" + law + ", " + minutes + ")", spot.tick(law, minutes), oracle.tick(law, minutes));
+                break;
+            case 7: due("image(" + k + ")", spot.image(k), oracle.image(k)); break;
+            case 8: due("back(" + k + ")", spot.back(k), oracle.back(k)); break;
+            case 9:
+                int seed = one(9) ? -1 - below(5) : below(Integer.MAX_VALUE);
+                due("seed(" + seed + ")", spot.seed(seed), oracle.seed(seed));
+                break;
+            default:
+                if (one(4)) {
+                    String text = hallText(4);
+                    hall(one(2) ? text : spoiled(text));
+                    columns = Math.max(1, oracle.count(0));
+                    rows = Math.max(1, oracle.count(1));
+                } else if (one(2)) {
+                    law(one(4) ? spoiled(lawText()) : lawText());
+                } else {
+                    int[] f = Check.numbers("go 1", 0);
+                    due("feed", spot.feed(f[0], f[1], f[2], f[3], -f[4]), oracle.feed(f[0], f[1], f[2], f[3], -f[4]));
+                    int end = below(60) - 2;
+                    due("end(" + end + ")", spot.end(end), oracle.end(end));
+                }
+                break;
+        }
+    }
+
+    private void look() {
+        int x = x();
+        int y = y();
+        int g = who();
+        int w;
+        switch (below(7)) {
+            case 0:
+                w = what(3);
+                due("seat(" + x + ", " + y + ", " + w + ")", spot.seat(x, y, w), oracle.seat(x, y, w));
+                break;
+            case 1:
+                w = what(4);
+                due("guest(" + g + ", " + w + ")", spot.guest(g, w), oracle.guest(g, w));
+                break;
+            case 2:
+                w = what(3);
+                int f = below(8) - 1;
+                due("fan(" + f + ", " + w + ")", spot.fan(f, w), oracle.fan(f, w));
+                break;
+            case 3:
+                w = what(1);
+                int ago = one(3) ? below(124) - 1 : below(6);
+                due("log(" + ago + ", " + w + ")", spot.log(ago, w), oracle.log(ago, w));
+                break;
+            case 4: due("hushed(" + x + ", " + y + ")", spot.hushed(x, y), oracle.hushed(x, y)); break;
+            default:
+                w = below(19) - 1;
+                due("count(" + w + ")", spot.count(w), oracle.count(w));
+                break;
+        }
+    }
+
+    private void search(boolean large) {
+        int law = rule();
+        int g = who();
+        int w;
+        int n = minutes(60);
+        int n30 = minutes(large ? 8 : 30);
+        String head = "(" + law + ", " + n + ", ";
+        switch (below(13)) {
+            case 0:
+                w = what(1);
+                due("there" + head + w + ")", spot.there(law, n, w), oracle.there(law, n, w));
+                break;
+            case 1: due("deaf" + head + g + ")", spot.deaf(law, n, g), oracle.deaf(law, n, g)); break;
+            case 2:
+                w = what(1);
+                due("critic" + head + w + ")", spot.critic(law, n, w), oracle.critic(law, n, w));
+                break;
+            case 3:
+                for (int i = 0; i < 2; i++) {
+                    w = what(2);
+                    due("seated(" + law + ", " + n30 + ", " + g + ", " + w + ")", spot.seated(law, n30, g, w), oracle.seated(law, n30, g, w));
+                }
+                break;
+            case 4: due("changed(" + law + ", " + n30 + ", " + g + ")", spot.changed(law, n30, g), oracle.changed(law, n30, g)); break;
+            case 5: due("without" + head + g + ")", spot.without(law, n, g), oracle.without(law, n, g)); break;
+            case 6:
+                w = what(1);
+                due("baron" + head + w + ")", spot.baron(law, n, w), oracle.baron(law, n, w));
+                break;
+            case 7: due("led" + head + ")", spot.led(law, n), oracle.led(law, n)); break;
+            case 8:
+                int x = x();
+                int y = y();
+                int n10 = minutes(large ? 4 : 10);
+                for (int i = 0; i < 2; i++) {
+                    w = what(3);
+                    due("fanned(" + law + ", " + n10 + ", " + x + ", " + y + ", " + w + ")", spot.fanned(law, n10, x, y, w), oracle.fanned(law, n10, x, y, w));
+                }
+                break;
+            case 9:
+                int d = minutes(20);
+                for (int i = 0; i < 2; i++) {
+                    w = what(4);
+                    due("span" + head + g + ", " + d + ", " + w + ")", spot.span(law, n, g, d, w), oracle.span(law, n, g, d, w));
+                }
+                break;
+            case 10:
+            case 11: spies(law); break;
+            default:
+                int m = minutes(10);
+                w = what(2);
+                due("evenings(" + law + ", " + m + ", " + n30 + ", " + g + ", " + w + ")", spot.evenings(law, m, n30, g, w), oracle.evenings(law, m, n30, g, w));
+                break;
+        }
+    }
+
+    private void spies(int law) {
+        int n = minutes(30);
+        int sets = 1 << oracle.count(2);
+        int hear = below(sets) & below(sets);
+        int not = below(sets) & below(sets) & (one(10) ? -1 : ~hear);
+        if (one(20)) {
+            not = one(2) ? -1 : sets;
+        }
+        if (one(20)) {
+            hear = one(2) ? Integer.MIN_VALUE : sets;
+        }
+        int w = what(2);
+        due("spy(" + law + ", " + n + ", " + hear + ", " + not + ", " + w + ")", spot.spy(law, n, hear, not, w), oracle.spy(law, n, hear, not, w));
+    }
+}
