@@ -11,6 +11,7 @@ public final class OracleTest {
     private final String name;
     private int columns = 1;
     private int rows = 1;
+    private Runnable asked = () -> { };
 
     private OracleTest(long seed) {
         random = new Random(seed);
@@ -24,6 +25,9 @@ public final class OracleTest {
         }
         for (int seed = 1; seed <= runs; seed++) {
             new OracleTest(seed).calls(seed % 25 == 0);
+        }
+        for (int seed = 1; seed <= 6; seed++) {
+            new OracleTest(seed).crowd();
         }
         CHECK.finish();
     }
@@ -46,9 +50,11 @@ public final class OracleTest {
             int x = below(columns);
             int y = below(rows);
             String seat = " " + x + " " + y + " ";
-            switch (below(6)) {
+            switch (below(8)) {
                 case 0:
                 case 1:
+                case 6:
+                case 7:
                     if (taken.indexOf("(" + x + "," + y + ")") < 0 || one(60)) {
                         text.append(";guest").append(seat).append(below(100)).append(' ').append(below(10));
                         taken.append("(" + x + "," + y + ")");
@@ -99,6 +105,9 @@ public final class OracleTest {
 
     private String lawText() {
         StringBuilder text = new StringBuilder();
+        if (one(4)) {
+            return new String[] {"go heat", "go 0-heat", "go near", "go heat*2+near-back*9", "go 0-near+guests"}[below(5)];
+        }
         for (int i = below(4); i >= 0; i--) {
             text.append("go ").append(sum());
             if (i > 0 || one(2)) {
@@ -216,6 +225,31 @@ public final class OracleTest {
         for (int i = 0; i < (large ? 40 : 70); i++) {
             call(large);
         }
+        compareAll("at the end");
+    }
+
+    /** As many of all as there may be. */
+    private void crowd() {
+        columns = 10;
+        rows = 8;
+        StringBuilder text = new StringBuilder("hall 10 8;spot " + below(10) + " " + below(8));
+        for (int i = 0; i < 12; i++) {
+            text.append(";guest ").append(i % 4 * 3).append(' ').append(i / 4 * 3).append(' ').append(below(100)).append(" 1");
+        }
+        for (int i = 0; i < 6; i++) {
+            text.append(";fan ").append(below(10)).append(' ').append(below(8)).append(' ').append(1 + below(4)).append(" 9");
+        }
+        for (int i = 0; i < 8; i++) {
+            text.append(";snow ").append(below(10)).append(' ').append(below(8)).append(" 5");
+        }
+        hall(text.toString().replace("guest 9 ", "guest 8 "));
+        for (String rule : new String[] {"go heat", "go near-heat", "go 0-heat-back", "go x", "go y-x", "go 0"}) {
+            law(rule);
+        }
+        for (int i = 0; i < 120; i++) {
+            call(true);
+        }
+        compareAll("at the end");
     }
 
     private int x() {
@@ -247,6 +281,11 @@ public final class OracleTest {
     private void call(boolean large) {
         if (one(3)) {
             hand();
+            if (one(3)) {
+                asked.run();
+            }
+        } else if (one(10)) {
+            asked.run();
         } else if (one(2)) {
             look();
         } else {
@@ -276,7 +315,12 @@ public final class OracleTest {
                 due("tick(" + law + ", " + minutes + ")", spot.tick(law, minutes), oracle.tick(law, minutes));
                 break;
             case 7: due("image(" + k + ")", spot.image(k), oracle.image(k)); break;
-            case 8: due("back(" + k + ")", spot.back(k), oracle.back(k)); break;
+            case 8:
+                due("back(" + k + ")", spot.back(k), oracle.back(k));
+                columns = Math.max(1, oracle.count(0));
+                rows = Math.max(1, oracle.count(1));
+                compareAll("behind back");
+                break;
             case 9:
                 int seed = one(9) ? -1 - below(5) : below(Integer.MAX_VALUE);
                 due("seed(" + seed + ")", spot.seed(seed), oracle.seed(seed));
@@ -331,74 +375,82 @@ public final class OracleTest {
         }
     }
 
+    /** A question asked now, and perhaps once more when things have changed. */
+    private void ask(Runnable question) {
+        question.run();
+        asked = question;
+    }
+
     private void search(boolean large) {
         int law = rule();
         int g = who();
-        int w;
         int n = minutes(60);
         int n30 = minutes(large ? 8 : 30);
+        int w1 = what(1);
+        int w2 = what(2);
         String head = "(" + law + ", " + n + ", ";
+        String head30 = "(" + law + ", " + n30 + ", ";
         switch (below(13)) {
-            case 0:
-                w = what(1);
-                due("there" + head + w + ")", spot.there(law, n, w), oracle.there(law, n, w));
-                break;
-            case 1: due("deaf" + head + g + ")", spot.deaf(law, n, g), oracle.deaf(law, n, g)); break;
-            case 2:
-                w = what(1);
-                due("critic" + head + w + ")", spot.critic(law, n, w), oracle.critic(law, n, w));
-                break;
-            case 3:
-                for (int i = 0; i < 2; i++) {
-                    w = what(2);
-                    due("seated(" + law + ", " + n30 + ", " + g + ", " + w + ")", spot.seated(law, n30, g, w), oracle.seated(law, n30, g, w));
-                }
-                break;
-            case 4: due("changed(" + law + ", " + n30 + ", " + g + ")", spot.changed(law, n30, g), oracle.changed(law, n30, g)); break;
-            case 5: due("without" + head + g + ")", spot.without(law, n, g), oracle.without(law, n, g)); break;
-            case 6:
-                w = what(1);
-                due("baron" + head + w + ")", spot.baron(law, n, w), oracle.baron(law, n, w));
-                break;
-            case 7: due("led" + head + ")", spot.led(law, n), oracle.led(law, n)); break;
-            case 8:
-                int x = x();
-                int y = y();
-                int n10 = minutes(large ? 4 : 10);
-                for (int i = 0; i < 2; i++) {
-                    w = what(3);
-                    due("fanned(" + law + ", " + n10 + ", " + x + ", " + y + ", " + w + ")", spot.fanned(law, n10, x, y, w), oracle.fanned(law, n10, x, y, w));
-                }
-                break;
-            case 9:
-                int d = minutes(20);
-                for (int i = 0; i < 2; i++) {
-                    w = what(4);
-                    due("span" + head + g + ", " + d + ", " + w + ")", spot.span(law, n, g, d, w), oracle.span(law, n, g, d, w));
-                }
-                break;
+            case 0: ask(() -> due("there" + head + w1 + ")", spot.there(law, n, w1), oracle.there(law, n, w1))); break;
+            case 1: ask(() -> due("deaf" + head + g + ")", spot.deaf(law, n, g), oracle.deaf(law, n, g))); break;
+            case 2: ask(() -> due("critic" + head + w1 + ")", spot.critic(law, n, w1), oracle.critic(law, n, w1))); break;
+            case 3: ask(() -> due("seated" + head30 + g + ", " + w2 + ")", spot.seated(law, n30, g, w2), oracle.seated(law, n30, g, w2))); break;
+            case 4: ask(() -> due("changed" + head30 + g + ")", spot.changed(law, n30, g), oracle.changed(law, n30, g))); break;
+            case 5: ask(() -> due("without" + head + g + ")", spot.without(law, n, g), oracle.without(law, n, g))); break;
+            case 6: ask(() -> due("baron" + head + w1 + ")", spot.baron(law, n, w1), oracle.baron(law, n, w1))); break;
+            case 7: ask(() -> due("led" + head + ")", spot.led(law, n), oracle.led(law, n))); break;
+            case 8: fans(law, minutes(large ? 4 : 10), x(), y(), what(3)); break;
+            case 9: spans(law, n, g, minutes(20), what(4)); break;
             case 10:
             case 11: spies(law); break;
-            default:
-                int m = minutes(10);
-                w = what(2);
-                due("evenings(" + law + ", " + m + ", " + n30 + ", " + g + ", " + w + ")", spot.evenings(law, m, n30, g, w), oracle.evenings(law, m, n30, g, w));
-                break;
+            default: evenings(law, minutes(10), n30, g, w2); break;
         }
+    }
+
+    private void fans(int law, int n, int x, int y, int w) {
+        ask(() -> due("fanned(" + law + ", " + n + ", " + x + ", " + y + ", " + w + ")", spot.fanned(law, n, x, y, w), oracle.fanned(law, n, x, y, w)));
+    }
+
+    private void spans(int law, int n, int g, int d, int w) {
+        ask(() -> due("span(" + law + ", " + n + ", " + g + ", " + d + ", " + w + ")", spot.span(law, n, g, d, w), oracle.span(law, n, g, d, w)));
+    }
+
+    private void evenings(int law, int m, int n, int g, int w) {
+        ask(() -> due("evenings(" + law + ", " + m + ", " + n + ", " + g + ", " + w + ")", spot.evenings(law, m, n, g, w), oracle.evenings(law, m, n, g, w)));
     }
 
     private void spies(int law) {
         int n = minutes(30);
         int sets = 1 << oracle.count(2);
-        int hear = below(sets) & below(sets);
-        int not = below(sets) & below(sets) & (one(10) ? -1 : ~hear);
-        if (one(20)) {
-            not = one(2) ? -1 : sets;
-        }
-        if (one(20)) {
-            hear = one(2) ? Integer.MIN_VALUE : sets;
-        }
+        int some = below(sets) & below(sets);
+        int hear = one(20) ? (one(2) ? Integer.MIN_VALUE : sets) : some;
+        int not = one(20) ? (one(2) ? -1 : sets) : below(sets) & below(sets) & (one(10) ? -1 : ~some);
         int w = what(2);
-        due("spy(" + law + ", " + n + ", " + hear + ", " + not + ", " + w + ")", spot.spy(law, n, hear, not, w), oracle.spy(law, n, hear, not, w));
+        ask(() -> due("spy(" + law + ", " + n + ", " + hear + ", " + not + ", " + w + ")", spot.spy(law, n, hear, not, w), oracle.spy(law, n, hear, not, w)));
+    }
+
+    /** Everything that can be looked at. */
+    private void compareAll(String when) {
+        for (int what = -1; what <= 17; what++) {
+            due(when + " count(" + what + ")", spot.count(what), oracle.count(what));
+        }
+        for (int i = 0; i < 12; i++) {
+            for (int what = 0; what < 5; what++) {
+                due(when + " guest(" + i + ", " + what + ")", spot.guest(i, what), oracle.guest(i, what));
+                due(when + " fan(" + i + ", " + what + ")", spot.fan(i, what), oracle.fan(i, what));
+            }
+        }
+        for (int x = 0; x < columns; x++) {
+            for (int y = 0; y < rows; y++) {
+                due(when + " hushed(" + x + ", " + y + ")", spot.hushed(x, y), oracle.hushed(x, y));
+                for (int what = 0; what < 4; what++) {
+                    due(when + " seat(" + x + ", " + y + ", " + what + ")", spot.seat(x, y, what), oracle.seat(x, y, what));
+                }
+            }
+        }
+        for (int ago = 0; ago <= 121; ago++) {
+            due(when + " log(" + ago + ", 0)", spot.log(ago, 0), oracle.log(ago, 0));
+            due(when + " log(" + ago + ", 1)", spot.log(ago, 1), oracle.log(ago, 1));
+        }
     }
 }

@@ -14,6 +14,7 @@ public final class PromiseTest {
         hallLimits();
         lawAnswers();
         lawFaults();
+        ends();
         lawLimits();
         seats();
         guestsAndFans();
@@ -274,6 +275,17 @@ public final class PromiseTest {
         Check.tape(x, "go wrong");
         due("seventh, wrong", x.law(), -1);
         due("its bytes stay", x.count(14), 8);
+        due("law 6", x.tick(6, 1), -1);
+        due("hall", Check.hall(x, "hall 2 1"), 0);
+        due("law 6", x.tick(6, 1), -1);
+        due("law 5", x.tick(5, 1), 1);
+        // what was read before leaves nothing behind
+        x = with("hall 2 1");
+        for (int i = 0; i < 40; i++) {
+            due("long fault", Check.law(x, "go 1" + times("+1", 58) + "+!"), fault(121, 0));
+        }
+        due("law", Check.law(x, "go x"), 0);
+        due("there", x.there(0, 1, 0), 1);
         goodLaw("go1");
         goodLaw("  go  1  ;  go  x  if  y  >=  2  ");
         goodLaw("go heat+near-guests*x/y%minute+way-back+edge");
@@ -326,6 +338,38 @@ public final class PromiseTest {
         badLaw("go 100000", 3, 1);
         badLaw("go 1+000000*z", 5, 1);
         badLaw("go 1 if x<123456", 10, 1);
+    }
+
+    /** A text ends where the tape ends, whatever it had behind that, or if it is full. */
+    private static void ends() {
+        String[] laws = {"go 1 if x<|=1", "go 1 if 1>|=0", "go 1+|1", "go| 1", "go 1 if [1=1|]", "go 1 if 1=1 and| 1=1"};
+        for (String text : laws) {
+            int end = text.indexOf('|');
+            DeafSpot x = new DeafSpot();
+            Check.tape(x, text.replace("|", ""));
+            due("end", x.end(end), end);
+            due("law of " + text, x.law(), fault(end, 0));
+            String full = times(" ", 400 - end) + text.substring(0, end);
+            badLaw(full, 400, 0);
+        }
+        String[] halls = {"hall 1| 1", "hall| 1 1", "hall 1 1;|warm 0 0 1"};
+        for (String text : halls) {
+            int end = text.indexOf('|');
+            DeafSpot x = new DeafSpot();
+            Check.tape(x, text.replace("|", ""));
+            due("end", x.end(end), end);
+            due("hall of " + text, x.hall(), fault(end, 0));
+            badHall(times(" ", 400 - end) + text.substring(0, end), 400, 0);
+        }
+        String[] whole = {"go 1|+1", "go x|y", "go 1|2", "go 1| if", "go 1|;"};
+        for (String text : whole) {
+            int end = text.indexOf('|');
+            DeafSpot x = new DeafSpot();
+            Check.tape(x, text.replace("|", ""));
+            due("end", x.end(end), end);
+            due("law of " + text, x.law(), 0);
+            goodLaw(times(" ", 400 - end) + text.substring(0, end));
+        }
     }
 
     private static void lawLimits() {
@@ -801,6 +845,11 @@ public final class PromiseTest {
         due("out by way 1", x.fanned(0, 1, 0, 0, 0), 1);
         due("from 1 0", x.fanned(0, 1, 0, 0, 1), 1);
         due("up", x.fanned(0, 1, 0, 0, 3), 1);
+        // all 9, or all 10, must go out
+        due("strength 9", with("hall 2 1;warm 1 0 9", "go 1 if heat=0 and near=0 and x=1").fanned(0, 1, 1, 0, 0), 9);
+        due("strength 10", with("hall 2 1;warm 1 0 10", "go 1 if heat=0 and near=0 and x=1").fanned(0, 1, 1, 0, 0), -2);
+        // no way leads from the end of a row to the next one
+        due("no such way", with("hall 2 2;warm 1 0 7", "go 1 if heat>0 and x=0 and y=1").fanned(0, 1, 0, 1, 0), -2);
         // a seventh fan blows behind the other six: it has what they brought
         x = with("hall 3 1;spot 2 0;warm 0 0 6;fan 0 0 2 1;fan 0 0 2 1;fan 0 0 2 1;fan 0 0 2 1;fan 0 0 2 1;fan 0 0 2 1", "go heat");
         due("as it is", x.there(0, 1, 0), 1);
@@ -996,6 +1045,11 @@ public final class PromiseTest {
         due("tick", x.tick(2, 1), 5);
         due("back", x.back(0), 4);
         due("all as it was", all(x).equals(kept), true);
+        // the log of another past has come in between
+        due("hall", Check.hall(x, "hall 3 2;spot 2 1"), 0);
+        due("tick", x.tick(1, 120), 120);
+        due("back", x.back(3), 4);
+        due("all as it was", all(x).equals(kept), true);
         x = new DeafSpot();
         due("without a hall", x.image(2), 0);
         due("hall", Check.hall(x, CELL), 1);
@@ -1023,52 +1077,71 @@ public final class PromiseTest {
         return text.toString();
     }
 
-    /** A search that was made before tells nothing once the evening is another one. */
+    /** A search that was made before tells nothing once the evening, or the question, is another one. */
     private static void searchesAfterChanges() {
-        DeafSpot x = with(ROW, "go heat", "go 0");
-        due("image", x.image(0), 0);
-        String first = searches(x);
-        due("again", searches(x).equals(first), true);
-        due("warms", x.warms(0, 0), 16);
-        due("behind warms", searches(x).equals(first), false);
-        due("back", x.back(0), 0);
-        due("behind back", searches(x).equals(first), true);
-        due("goes", x.goes(0), true);
-        due("comes", x.sits(0, 1, 0), true);
-        due("behind sits", searches(x).equals(first), false);
-        due("sits", x.sits(0, 0, 0), true);
-        due("behind sits", searches(x).equals(first), true);
-        due("change", x.change(0, 1), true);
-        due("behind change", searches(x).equals(first), false);
-        due("change", x.change(0, 1), true);
-        due("behind change", searches(x).equals(first), true);
-        due("tick", x.tick(0, 1), 1);
-        due("behind tick", searches(x).equals(first), false);
+        DeafSpot x = with("hall 3 1;spot 2 0;guest 1 0 99 1;guest 0 0 1 1", "go heat", "go 0");
+        due("image", x.image(1), 0);
+        int[] calls = {0, 1, 2, 3, 4, 5, 6};
+        int[] others = new int[calls.length];
+        for (int kind = 0; kind < 3; kind++) {
+            for (int call : calls) {
+                due("hall", Check.hall(x, ROW), 2);
+                String before = search(x, kind);
+                byHand(x, call);
+                DeafSpot fresh = with("hall 3 1;spot 2 0;guest 1 0 99 1;guest 0 0 1 1", "go heat", "go 0");
+                due("image", fresh.image(1), 0);
+                due("hall", Check.hall(fresh, ROW), 2);
+                byHand(fresh, call);
+                String behind = search(x, kind);
+                due("search " + kind + " behind " + call, behind, search(fresh, kind));
+                others[call] += behind.equals(before) ? 0 : 1;
+            }
+        }
+        for (int call : calls) {
+            due("something is otherwise behind " + call, others[call] > 0, true);
+        }
+        // the same numbers mean another thing in another search
         due("hall", Check.hall(x, ROW), 2);
-        due("behind hall", searches(x).equals(first), true);
-        due("goes", x.goes(0), true);
-        due("behind goes", searches(x).equals(first), false);
-        // one search alone, with each thing that can be otherwise
+        String[] alone = {search(x, 0), search(x, 1), search(x, 2)};
+        for (int kind = 0; kind < 9; kind++) {
+            due("first", search(x, kind / 3), alone[kind / 3]);
+            due("then", search(x, kind % 3), alone[kind % 3]);
+            due("and again", search(x, kind / 3), alone[kind / 3]);
+        }
         x = with("hall 3 3;guest 1 1 9 1;guest 0 0 9 2;spot 1 1", "go heat", "go x");
         due("fanned", x.fanned(0, 1, 1, 1, 0), 1);
         due("fanned, other law", x.fanned(1, 1, 1, 1, 0), -2);
+        due("fanned, first law", x.fanned(0, 1, 1, 1, 0), 1);
         due("fanned, other seat", x.fanned(1, 1, 2, 1, 0), 1);
         due("fanned, other n", x.fanned(1, 0, 2, 1, 0), -2);
-        due("span", x.span(1, 0, 1, 0, 4), 1);
         due("seated", x.seated(1, 0, 0, 0), 1);
         due("seated, other guest", x.seated(1, 0, 1, 0), -2);
+        due("span", x.span(0, 1, 0, 9, 4) > 1, true);
+        due("span, other d", x.span(0, 1, 0, 0, 4), 1);
     }
 
-    private static String searches(DeafSpot x) {
+    /** Each call that makes the evening another one. */
+    private static void byHand(DeafSpot x, int call) {
+        switch (call) {
+            case 0: due("warms", x.warms(0, 0), 16); break;
+            case 1: due("change", x.change(0, 1), true); break;
+            case 2: due("goes", x.goes(0), true); break;
+            case 3: due("sits", x.sits(0, 1, 0), true); break;
+            case 4: due("tick", x.tick(0, 2), 2); break;
+            case 5: due("hall", Check.hall(x, "hall 3 1;spot 2 0;guest 1 0 9 1;guest 0 0 1 1"), 2); break;
+            default: due("back", x.back(1), 0); break;
+        }
+    }
+
+    private static void due(String call, String got, String want) {
+        due(call + ": " + got + ", due is " + want, got.equals(want), true);
+    }
+
+    /** All parts of one search, whose numbers are alike for all three kinds. */
+    private static String search(DeafSpot x, int kind) {
         StringBuilder text = new StringBuilder();
         for (int what = 0; what < 5; what++) {
-            text.append(x.span(0, 1, 0, 10, what)).append(' ').append(x.span(0, 1, 1, 10, what)).append(' ');
-        }
-        for (int what = 0; what < 3; what++) {
-            text.append(x.seated(0, 1, 0, what)).append(' ').append(x.seated(0, 1, 1, what)).append(' ');
-        }
-        for (int what = 0; what < 4; what++) {
-            text.append(x.fanned(0, 1, 0, 0, what)).append(' ').append(x.fanned(0, 1, 1, 0, what)).append(' ');
+            text.append(' ').append(kind == 0 ? x.span(0, 1, 0, 0, what) : kind == 1 ? x.fanned(0, 1, 0, 0, what) : x.seated(0, 1, 0, what));
         }
         return text.toString();
     }
