@@ -2,13 +2,23 @@
 final class Check {
     private int wrong = 0;
     private int asked = 0;
+    private String sentence = "";
+
+    interface Call {
+        int of(DeafSpot x);
+    }
+
+    /** What is asked from here on is about these words of the document; " .. " stands for some left out. */
+    void sentence(String words) {
+        sentence = words;
+    }
 
     void due(String call, long got, long want) {
         asked++;
         if (got != want) {
             wrong++;
             if (wrong <= 50) {
-                System.out.println(call + " answered " + got + ", due is " + want);
+                System.out.println(call + " answered " + got + ", due is " + want + (sentence.isEmpty() ? "" : ", as '" + sentence + "'"));
             }
         }
     }
@@ -26,6 +36,29 @@ final class Check {
         if (wrong != 0 || asked == 0) {
             System.exit(1);
         }
+    }
+
+    /** A call answers so, and nothing has changed behind it. */
+    void still(String call, DeafSpot x, Call asked, int want) {
+        String before = Whole.of(x);
+        due(call, asked.of(x), want);
+        String behind = Whole.of(x);
+        due(call + ": all is as it was: " + before + " became " + behind, before.equals(behind), true);
+    }
+
+    /** A new object with a hall and laws, all of which must be in order. */
+    DeafSpot with(String hall, String... laws) {
+        DeafSpot x = new DeafSpot();
+        due("hall of " + hall, hall(x, hall) >= 0, true);
+        for (int i = 0; i < laws.length; i++) {
+            due("law of " + laws[i], law(x, laws[i]), i);
+        }
+        return x;
+    }
+
+    /** The answer to a text with a fault. */
+    static int fault(int place, int kind) {
+        return -2 - (1 + 8 * place + kind);
     }
 
     /** The five numbers of the k-th feed of a text. */

@@ -49,16 +49,11 @@ public final class PromiseTest {
     }
 
     private static DeafSpot with(String hall, String... laws) {
-        DeafSpot x = new DeafSpot();
-        due("hall of " + hall, Check.hall(x, hall) >= 0, true);
-        for (int i = 0; i < laws.length; i++) {
-            due("law of " + laws[i], Check.law(x, laws[i]), i);
-        }
-        return x;
+        return CHECK.with(hall, laws);
     }
 
     private static int fault(int place, int kind) {
-        return -2 - (1 + 8 * place + kind);
+        return Check.fault(place, kind);
     }
 
     private static void badHall(String text, int place, int kind) {
