@@ -191,6 +191,20 @@ public final class CallBoundsTest {
         due("one less", x.end(399), 399);
         due("and less", x.end(398), 398);
         due("what is gone does not come back", x.end(399), -1);
+        // nothing is read of what stood behind the end
+        String[] texts = {"go 1 if x<|=1", "go 1 if x>|=1", "go 1+|1", "go|1", "go 1 if [1=1|]", "go 1 if 1=1 and|1=1"};
+        for (String text : texts) {
+            int end = text.indexOf('|');
+            x = new DeafSpot();
+            Check.tape(x, text.replace("|", ""));
+            due("end", x.end(end), end);
+            due("law of '" + text + "'", x.law(), Check.fault(end, 0));
+        }
+        x = CHECK.with("hall 2 1");
+        Check.tape(x, "go 1;go x");
+        due("end", x.end(4), 4);
+        due("law", x.law(), 0);
+        due("by the first clause alone", x.there(0, 1, 0), 0);
     }
 
     private static void endRefused() {
@@ -232,6 +246,35 @@ public final class CallBoundsTest {
         due("seats of the old one", x.seat(1, 0, 0), -1);
         due("hall", Check.hall(x, "hall 1 2;guest 0 1 4 4"), 1);
         due("deaf in no minute", x.guest(0, 4), 0);
+        // a large one, a small one, a long one and a high one, each on its own seats alone
+        x = CHECK.with("hall 10 8;guest 9 7 9 9;fan 9 7 1 1;snow 9 7 1;warm 9 7 9999;spot 9 7", "go x+y");
+        shape(x, 3, 3);
+        shape(x, 10, 1);
+        shape(x, 1, 8);
+        shape(x, 10, 8);
+        shape(x, 2, 4);
+    }
+
+    /** Each edge, and that heat and the spot go to the last seat's neighbours. */
+    private static void shape(DeafSpot x, int columns, int rows) {
+        String name = columns + " " + rows + ": ";
+        int right = columns - 1;
+        int last = rows - 1;
+        due(name + "hall", Check.hall(x, "hall " + columns + " " + rows + ";warm " + right + " " + last + " 80"), 0);
+        due(name + "snows", x.count(4), 0);
+        int ways = (columns > 1 ? 1 : 0) + (rows > 1 ? 1 : 0);
+        due(name + "tick", x.tick(0, 1), 1);
+        due(name + "heat", x.seat(right, last, 0), 80 - 10 * ways);
+        due(name + "to the left", x.seat(right - 1, last, 0), columns > 1 ? 10 : -1);
+        due(name + "up", x.seat(right, last - 1, 0), rows > 1 ? 10 : -1);
+        due(name + "all", x.count(9), 80);
+        due(name + "spot", x.count(7) + x.count(8), 1);
+        due(name + "beyond", x.seat(columns, last, 0) + x.seat(right, rows, 0), -2);
+        for (int column = 0; column < columns; column++) {
+            due(name + "edge", x.seat(column, last / 2, 3), Math.min(Math.min(column, right - column), last / 2));
+        }
+        due(name + "tick", x.tick(0, 60), 61);
+        due(name + "at the end", x.seat(right, last, 2), 1);
     }
 
     private static void hallDrawStays() {
@@ -727,6 +770,15 @@ public final class CallBoundsTest {
         due("tick", x.tick(0, 120), 123);
         due("back", x.back(0), 3);
         due("spot", x.count(7), 3);
+        // behind another hall's minutes the log is the one it was
+        due("hall", Check.hall(x, "hall 10 8;spot 9 7"), 0);
+        due("tick", x.tick(0, 120), 120);
+        due("back", x.back(2), 2);
+        due("kept", x.count(15), 2);
+        due("x 1 ago", x.log(1, 0), 2);
+        due("x 2 ago", x.log(2, 0), 1);
+        due("y 2 ago", x.log(2, 1), 0);
+        due("hushed", x.hushed(1, 0), 1);
         // an image of no hall
         x = new DeafSpot();
         due("image", x.image(0), 0);

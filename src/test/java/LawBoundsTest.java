@@ -7,6 +7,7 @@ public final class LawBoundsTest {
     private static final String MOST = "32767*65536*65536*65536+65535*65536*65536+65535*65536+65535";
 
     public static void main(String[] args) {
+        bytesAtMost();
         lawsAtMost();
         clausesAtMost();
         ifOrNot();
@@ -95,6 +96,21 @@ public final class LawBoundsTest {
         due(word + " in '" + hall + "' is " + value, isSo(hall, "way=2 and " + word + "=" + value), true);
     }
 
+    private static void bytesAtMost() {
+        sentence("LAWS 0 to 5: texts likewise");
+        good("go 1" + times(" ", 395));
+        good("go 1" + times(" ", 396));
+        good(times(" ", 396) + "go 1");
+        bad("go 1" + times(" ", 395) + "!", 399, 0);
+        bad("go 1" + times(" ", 395) + ";", 400, 0);
+        bad(times(" ", 397) + "go ", 400, 0);
+        DeafSpot x = CHECK.with("hall 2 1");
+        Check.tape(x, times(" ", 396) + "go x");
+        due("a byte more does not come", x.feed(0x20000000, 0, 0, 0, 0), -1);
+        due("the 400 are a law", x.law(), 0);
+        due("its last byte counts", x.there(0, 1, 0), 1);
+    }
+
     private static void lawsAtMost() {
         sentence("LAWS 0 to 5");
         DeafSpot x = new DeafSpot();
@@ -144,6 +160,12 @@ public final class LawBoundsTest {
         fails("1=2 or 1=1 and 1=2");
         fails("[1=1 or 1=1] and 1=2");
         holds("1=2 or 1=2 or 1=2 or 1=2 or 1=2 or 1=2 or 1=1");
+        // whichever of several it is
+        for (int i = 0; i < 5; i++) {
+            holds(times("1=2 or ", i) + "1=1" + times(" or 1=2", 4 - i));
+            fails(times("1=1 and ", i) + "1=2" + times(" and 1=1", 4 - i));
+            holds(times("1=2 and 1=1 or ", i) + "1=1 and 1=1" + times(" or 1=1 and 1=2", 4 - i));
+        }
         fails("1=1 and 1=1 and 1=1 and 1=1 and 1=1 and 1=2");
         bad("go 1 if or 1=1", 8, 0);
         bad("go 1 if and 1=1", 8, 0);
@@ -176,19 +198,31 @@ public final class LawBoundsTest {
 
     private static void signs() {
         sentence("SIGN one of < <= = >= >");
-        int[][] pairs = {{0, 1}, {1, 1}, {2, 1}};
+        int[][] pairs = {{0, 1}, {1, 1}, {2, 1}, {99998, 99999}, {99999, 99999}, {99999, 99998}};
         for (int[] p : pairs) {
-            due(p[0] + "<" + p[1], isSo("hall 2 1", p[0] + "<" + p[1]), p[0] < p[1]);
-            due(p[0] + "<=" + p[1], isSo("hall 2 1", p[0] + "<=" + p[1]), p[0] <= p[1]);
-            due(p[0] + "=" + p[1], isSo("hall 2 1", p[0] + "=" + p[1]), p[0] == p[1]);
-            due(p[0] + ">=" + p[1], isSo("hall 2 1", p[0] + ">=" + p[1]), p[0] >= p[1]);
-            due(p[0] + ">" + p[1], isSo("hall 2 1", p[0] + ">" + p[1]), p[0] > p[1]);
+            sign(p[0] + "<" + p[1], p[0] < p[1]);
+            sign(p[0] + "<=" + p[1], p[0] <= p[1]);
+            sign(p[0] + "=" + p[1], p[0] == p[1]);
+            sign(p[0] + ">=" + p[1], p[0] >= p[1]);
+            sign(p[0] + ">" + p[1], p[0] > p[1]);
         }
         for (String sign : new String[] {"==", "=<", "=>", "<>", "><", "<<", ">>", "= =", "< =", "> ="}) {
             bad("go 1 if 1" + sign + "1", 8 + sign.length(), 0);
         }
         bad("go 1 if 1<==1", 11, 0);
         bad("go 1 if 1!1", 9, 0);
+    }
+
+    private static void sign(String test, boolean is) {
+        if (is) {
+            holds(test);
+            holds(test + " and 1=1");
+            holds("1=1 and " + test);
+        } else {
+            fails(test);
+            fails(test + " or 1=2");
+            fails("1=2 or " + test);
+        }
     }
 
     private static void sums() {
@@ -351,6 +385,8 @@ public final class LawBoundsTest {
         DeafSpot x = CHECK.with("hall 4 1;spot 1 0", "go x", "go back", "go 1-back", "go 0");
         due("tick", x.tick(0, 1), 1);
         due("back to 1", x.there(1, 1, 0), 1);
+        due("a fifth law", Check.law(x, "go 9 if back=1"), 4);
+        due("1 and no more", x.there(4, 1, 0), 1);
         due("1 is back, the seat it is on not", x.there(2, 1, 0), 2);
         due("tick", x.tick(3, 1), 2);
         // it stayed: the seat it is on is the one
@@ -669,5 +705,13 @@ public final class LawBoundsTest {
         }
         due("all stays: " + before, before.equals(Whole.of(x)), true);
         due("the next number", Check.law(x, "go 3"), 2);
+        // of what was refused, or taken, nothing is left in the next one
+        x = CHECK.with("hall 3 1;spot 1 0", "go 5 if 1=2;go 0-x if 1=2;go 7-x", "go 5 if 1=2");
+        due("no clause of the one before", x.there(1, 1, 0), 1);
+        for (int i = 0; i < 20; i++) {
+            due("refused", Check.law(x, "go 1" + times("+1", 58) + "+!"), Check.fault(121, 0));
+        }
+        due("law", Check.law(x, "go x*x-3*x+2-heat-near"), 2);
+        due("no value of those", x.there(2, 1, 0), 0);
     }
 }

@@ -1,6 +1,7 @@
 import java.util.Random;
 
-/** Random runs of calls, the same each time, on the class and on the oracle. */
+/** Random runs of calls, the same each time, on the class and on the oracle. Looking at everything takes more than the
+ *  512 calls that the document promises; the class answers on as before, which is more than it must. */
 public final class OracleTest {
     private static final String[] WORDS = {"heat", "near", "guests", "x", "y", "minute", "way", "back", "edge"};
     private static final Check CHECK = new Check();
